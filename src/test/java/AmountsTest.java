@@ -14,12 +14,15 @@ public final class AmountsTest {
         shiftsToNoCell();
         sumsOverChildren();
         rolls();
+        member0IsAChild();
         rollsGoAlongTheFirstInnerDimension();
         rollsOfSeveral();
         rings();
         stepsAreCounted();
         fuelIsKept();
         cellsAreTwentyDeep();
+        rollsCountForTheDepth();
+        whatIsRefusedLeavesNoTrace();
         lookingIsRefused();
         CHECK.end();
     }
@@ -107,6 +110,8 @@ public final class AmountsTest {
         is("7-0*9", 7000);
         is("1/(1/1000)/1000", 1000);
         is("((1))+((2))", 3000);
+        is("1+1+1+1+1+1+1+1+1+1+1+x1", 11000);
+        is("1+2*(3+4*(5+6*(7+8*9)))", 3839000);
     }
 
     private static void overflows() {
@@ -143,6 +148,10 @@ public final class AmountsTest {
         is("1/0/0", ModelSheet.DIVISION, 0, "div");
         is("1/(1/0)", ModelSheet.DIVISION, 0, "div");
         is("1/x1", ModelSheet.DIVISION, 0, "div");
+        is("x1+x0", ModelSheet.RING, 0, "ring");
+        is("x0-x1", ModelSheet.RING, 0, "ring");
+        is("x1*(1/0)", ModelSheet.DIVISION, 0, "div");
+        is("1/0-x1", ModelSheet.DIVISION, 0, "div");
     }
 
     private static void emptyIsHandedOn() {
@@ -171,6 +180,9 @@ public final class AmountsTest {
         is("x0?2:3", ModelSheet.RING, 0, "ring");
         is("1/0?2:3", ModelSheet.DIVISION, 0, "div");
         is("99999*99999?2:3", ModelSheet.OVERFLOW, 0, "over");
+        is("(1/0?1:2)+x0", ModelSheet.RING, 0, "ring");
+        is("(1/0?1:y1)*2+x0", ModelSheet.RING, 0, "ring");
+        is("(1/0?x0:y1)*2+7", ModelSheet.DIVISION, 0, "div");
         is("1?2:1/0", 2000);
         is("1?1/0:2", ModelSheet.DIVISION, 0, "div");
         is("0?1?2:3:0?4:5", 5000);
@@ -339,6 +351,21 @@ public final class AmountsTest {
         CHECK.same("one and a half below 0", "-0.002/3", Check.look(two, 0, 1, 0, 0));
     }
 
+    private static void member0IsAChild() {
+        String[] wants = {"empty/1", "0.012/4", "0.004/4", "0.001/2", "0.007/2"};
+        for (int roll = 0; roll < 5; roll++) {
+            ModelSheet sheet = new ModelSheet();
+            sheet.member(0, -1, roll);
+            sheet.move(0, 0, 1);
+            sheet.member(0, 1, 1);
+            sheet.member(0, 1, 1);
+            Check.put(sheet, 0, 0, 0, 0, 1);
+            Check.put(sheet, 2, 0, 0, 0, 4);
+            Check.put(sheet, 3, 0, 0, 0, 7);
+            CHECK.same("roll " + roll + " over 0, 2 and 3", wants[roll], Check.look(sheet, 0, 1, 0, 0));
+        }
+    }
+
     private static void rollsGoAlongTheFirstInnerDimension() {
         ModelSheet sheet = new ModelSheet();
         int[] rolls = {3, 4, 2};
@@ -375,6 +402,14 @@ public final class AmountsTest {
             sheet.erase(0);
             rule(sheet, 4, "x1");
             CHECK.same("a ring", "ring/4", Check.look(sheet, 0, 1, 0, 0));
+        }
+        for (int roll = 1; roll <= 2; roll++) {
+            ModelSheet sheet = rolled(roll);
+            rule(sheet, 4, "1/0");
+            CHECK.same("behind empty ones", "div/4", Check.look(sheet, 0, 1, 0, 0));
+            Check.put(sheet, 2, 0, 0, 0, 2000000000);
+            Check.put(sheet, 3, 0, 0, 0, 2000000000);
+            CHECK.same("behind numbers", "div/4", Check.look(sheet, 0, 1, 0, 0));
         }
         ModelSheet first = rolled(3);
         rule(first, 2, "1/0");
@@ -509,12 +544,48 @@ public final class AmountsTest {
         CHECK.same("a ring is not too deep", "ring/20", Check.look(sheet, 0, 1, 0, 0));
         Check.go(sheet, 0, 0, 0);
         CHECK.refused("a ring behind 21", Check.STATE, sheet, () -> sheet.value(0));
-        ModelSheet rolled = chain();
-        rolled.member(2, 0, 1);
-        Check.put(rolled, 1, 3, 1, 0, 7000);
-        Check.go(rolled, 0, 0, 0);
-        rolled.fuel(2000);
-        CHECK.refused("with a roll in the end", Check.STATE, rolled, () -> rolled.shown(0, 0));
+    }
+
+    /** Six members below one another in each dimension; from the only leaf cell, the 16th, back to another. */
+    private static ModelSheet stairs(int roll, String formula) {
+        ModelSheet sheet = new ModelSheet();
+        for (int d = 0; d < 3; d++) {
+            sheet.member(d, -1, roll);
+            sheet.drop(d, 0);
+            sheet.member(d, 1, roll);
+            sheet.member(d, 0, roll);
+            for (int m = 3; m < 6; m++) {
+                sheet.member(d, m - 1, roll);
+            }
+            sheet.pattern(d, Check.LEAVES, 5);
+        }
+        CHECK.same("rule " + formula, 0, Check.rule(sheet, formula));
+        Check.go(sheet, 1, 1, 1);
+        return sheet;
+    }
+
+    private static void rollsCountForTheDepth() {
+        for (int roll = 1; roll <= 4; roll++) {
+            CHECK.same("16 deep", "7/16", Check.look(stairs(roll, "7"), 0, 1, 1, 1));
+            CHECK.same("20 deep, a ring", "ring/20", Check.look(stairs(roll, "x2y4"), 0, 1, 1, 1));
+            ModelSheet deeper = stairs(roll, "x0y4");
+            CHECK.refused("21 deep", Check.STATE, deeper, () -> deeper.value(0));
+            ModelSheet sums = stairs(roll, "x2y4x$");
+            CHECK.same("a sum is no cell", "ring/19", Check.look(sums, 0, 1, 1, 1));
+            ModelSheet deepSums = stairs(roll, "x1y4x$");
+            CHECK.refused("21 deep by a sum", Check.STATE, deepSums, () -> deepSums.value(0));
+        }
+    }
+
+    private static void whatIsRefusedLeavesNoTrace() {
+        ModelSheet sheet = chain();
+        for (int i = 0; i < 400; i++) {
+            Check.thrown(() -> sheet.state(0));
+        }
+        Check.put(sheet, 3, 0, 0, 0, 7000);
+        CHECK.same("behind many that were too deep", "7/4", Check.look(sheet, 0, 0, 0, 0));
+        Check.put(sheet, 2, 3, 0, 0, 5000);
+        CHECK.same("with rules that wait", "9/15", Check.look(sheet, 0, 0, 1, 0));
     }
 
     private static void lookingIsRefused() {

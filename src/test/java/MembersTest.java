@@ -8,8 +8,10 @@ public final class MembersTest {
         membersAreRefused();
         movesChangeDepthsAndOrder();
         movesAreRefused();
+        sixMembersBelowOneAnother();
         leavesFollowTheWalk();
         dropTakesInputsAlong();
+        dropChangesTheLeaves();
         dropClearsTheNextPattern();
         dropIsRefused();
         allMembersOfADimensionCanGo();
@@ -108,6 +110,21 @@ public final class MembersTest {
         CHECK.refused("below its grandchild", Check.ARGUMENT, sheet, () -> sheet.move(0, 0, 2));
     }
 
+    private static void sixMembersBelowOneAnother() {
+        ModelSheet sheet = new ModelSheet();
+        for (int m = 1; m < 6; m++) {
+            sheet.member(1, m - 1, 1);
+        }
+        CHECK.same("the deepest", 5, sheet.about(1, 5, 2));
+        for (int m = 0; m < 6; m++) {
+            int parent = m;
+            CHECK.refused("0 below " + m, Check.ARGUMENT, sheet, () -> sheet.move(1, 0, parent));
+        }
+        CHECK.same("3 is a root", 0, sheet.move(1, 3, -1));
+        CHECK.same("0 below the deepest", 3, sheet.move(1, 0, 5));
+        CHECK.same("2 is the only leaf", "1,1,5,0", about(sheet, 1, 2));
+    }
+
     private static void leavesFollowTheWalk() {
         ModelSheet sheet = new ModelSheet();
         sheet.member(2, -1, 1);
@@ -148,6 +165,19 @@ public final class MembersTest {
         CHECK.same("the cursor stays", 1, sheet.at(1, 0));
     }
 
+    private static void dropChangesTheLeaves() {
+        ModelSheet sheet = new ModelSheet();
+        sheet.member(0, -1, 1);
+        sheet.member(0, 1, 1);
+        sheet.member(0, -1, 1);
+        CHECK.same("the last leaf", 2, sheet.about(0, 3, 3));
+        sheet.drop(0, 2);
+        CHECK.same("1 is a leaf then", "-1,1,0,1", about(sheet, 0, 1));
+        sheet.drop(0, 0);
+        CHECK.same("1 is the first", 0, sheet.about(0, 1, 3));
+        CHECK.same("3 is the second", 1, sheet.about(0, 3, 3));
+    }
+
     private static void dropClearsTheNextPattern() {
         ModelSheet sheet = new ModelSheet();
         sheet.member(0, -1, 1);
@@ -159,6 +189,8 @@ public final class MembersTest {
         CHECK.same("a rule", 0, Check.rule(sheet, "7"));
         Check.go(sheet, 0, 1, 0);
         CHECK.same("x is any now", 0, sheet.winner());
+        Check.go(sheet, 1, 1, 0);
+        CHECK.same("x is any other now", 0, sheet.winner());
         Check.go(sheet, 1, 0, 0);
         CHECK.same("y is still 1", -1, sheet.winner());
     }

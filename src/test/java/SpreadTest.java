@@ -226,6 +226,16 @@ public final class SpreadTest {
             }
             CHECK.same("a leaf's roll does not hinder", 1, spreadAt(sheet, 0, 0, leaf, 6));
         }
+        for (int d = 0; d < 3; d++) {
+            ModelSheet sheet = new ModelSheet();
+            sheet.member(d, -1, 1);
+            sheet.drop(d, 0);
+            sheet.member(d, -1, 2);
+            sheet.move(d, 1, 0);
+            CHECK.refused("roll 2 of member 0 in " + d, Check.STATE, sheet, () -> sheet.spread(0, 6));
+            sheet.at(d, 1);
+            CHECK.same("its leaf in " + d, 1, sheet.spread(0, 6));
+        }
         ModelSheet sheet = new ModelSheet();
         int above = sheet.member(0, -1, 3);
         sheet.move(0, 0, above);
