@@ -521,7 +521,7 @@ public final class AmountsTest {
         }
         Check.rule(sheet, "(((x>)))");
         sheet.pattern(0, Check.JUST, 5);
-        Check.rule(sheet, "1+1*(1+1*(1?x0y>*1:1))");
+        Check.rule(sheet, "2+1*(3+1*(1?x0y>*1:1))");
         return sheet;
     }
 
@@ -529,13 +529,13 @@ public final class AmountsTest {
         ModelSheet sheet = chain();
         sheet.fuel(2000);
         Check.put(sheet, 1, 3, 0, 0, 7000);
-        CHECK.same("twenty deep", "13/20", Check.look(sheet, 0, 0, 0, 0));
+        CHECK.same("twenty deep", "22/20", Check.look(sheet, 0, 0, 0, 0));
         Check.go(sheet, 1, 3, 0);
         sheet.erase(0);
         Check.put(sheet, 2, 3, 0, 0, 7000);
         Check.go(sheet, 0, 0, 0);
         CHECK.refused("one with an input, too deep", Check.STATE, sheet, () -> sheet.state(0));
-        CHECK.same("less deep from the next one", "13/20", Check.look(sheet, 0, 1, 0, 0));
+        CHECK.same("less deep from the next one", "22/20", Check.look(sheet, 0, 1, 0, 0));
         Check.go(sheet, 2, 3, 0);
         sheet.erase(0);
         sheet.pattern(0, Check.JUST, 2);
@@ -585,7 +585,7 @@ public final class AmountsTest {
         Check.put(sheet, 3, 0, 0, 0, 7000);
         CHECK.same("behind many that were too deep", "7/4", Check.look(sheet, 0, 0, 0, 0));
         Check.put(sheet, 2, 3, 0, 0, 5000);
-        CHECK.same("with rules that wait", "9/15", Check.look(sheet, 0, 0, 1, 0));
+        CHECK.same("with rules that wait", "15/15", Check.look(sheet, 0, 0, 1, 0));
     }
 
     private static void lookingIsRefused() {
