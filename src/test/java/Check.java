@@ -27,12 +27,19 @@ final class Check {
         }
     }
 
-    /** The call throws just this exception, and changes nothing that can be seen. */
+    /** The call throws just this exception, and changes no count; Untouched looks at all the rest. */
     void refused(String what, Class<? extends RuntimeException> want, ModelSheet sheet, Call call) {
-        picture(sheet);
-        String before = picture(sheet);
+        String before = counts(sheet);
         same(what, want.getSimpleName(), thrown(call));
-        same(what + " changes nothing", before, picture(sheet));
+        same(what + " changes nothing", before, counts(sheet));
+    }
+
+    private static String counts(ModelSheet sheet) {
+        StringBuilder text = new StringBuilder("steps " + sheet.steps() + " filled " + sheet.filled(0) + " counts");
+        for (int what = 0; what <= 8; what++) {
+            text.append(' ').append(sheet.count(what));
+        }
+        return text.toString();
     }
 
     static String thrown(Call call) {
@@ -90,57 +97,6 @@ final class Check {
                 break;
             }
             text.append((char) code);
-        }
-        return text.toString();
-    }
-
-    /** All that can be seen of a sheet, but for the pad's text and the next rule's patterns. */
-    static String picture(ModelSheet sheet) {
-        StringBuilder text = new StringBuilder("steps " + sheet.steps());
-        int fuel = sheet.fuel(2000);
-        text.append(" fuel ").append(fuel).append(" counts");
-        for (int what = 0; what <= 8; what++) {
-            text.append(' ').append(sheet.count(what));
-        }
-        int[] cursor = new int[3];
-        for (int d = 0; d < 3; d++) {
-            cursor[d] = sheet.at(d, 0);
-            for (int m = 0; m < 6; m++) {
-                text.append(member(sheet, d, m));
-            }
-        }
-        for (int layer = 0; layer < sheet.count(4); layer++) {
-            text.append(" filled ").append(sheet.filled(layer));
-        }
-        for (int cell = 0; cell < 216; cell++) {
-            go(sheet, cell / 36, cell / 6 % 6, cell % 6);
-            text.append(cell(sheet));
-        }
-        go(sheet, cursor[0], cursor[1], cursor[2]);
-        sheet.fuel(fuel);
-        return text + " at " + cursor[0] + cursor[1] + cursor[2];
-    }
-
-    private static String member(ModelSheet sheet, int d, int m) {
-        try {
-            return " " + d + m + ":" + sheet.about(d, m, 0) + "," + sheet.about(d, m, 1) + ","
-                    + sheet.about(d, m, 2) + "," + sheet.about(d, m, 3);
-        } catch (NoSuchElementException e) {
-            return "";
-        }
-    }
-
-    private static String cell(ModelSheet sheet) {
-        StringBuilder text = new StringBuilder();
-        for (int layer = 0; layer < sheet.count(4); layer++) {
-            try {
-                text.append(' ').append(sheet.winner());
-                text.append(':').append(sheet.state(layer)).append(',').append(sheet.value(layer));
-            } catch (NoSuchElementException e) {
-                return "";
-            } catch (IllegalStateException e) {
-                text.append("too much");
-            }
         }
         return text.toString();
     }
