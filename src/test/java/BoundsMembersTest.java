@@ -141,6 +141,10 @@ public final class BoundsMembersTest {
                 "put 0 6; undo",
                 "drop D 0 ! state; member D 1 1; drop D 1 ! state; drop D 0 ! state; drop D 2 = 0; drop D 1 = 1",
                 "drop D 0 = 0");
+        STORY.inEachDimension("patterns stay behind a drop that is refused", "member D 0 1; pattern D 1 0",
+                "drop D 0 ! state; rule 7; winner = 0; at D 1; winner = -1; pattern D 2 0; drop D 0 ! state; rule 8",
+                "winner = 1; at D 0; winner = 0; pattern D 1 1; rule 9; pattern D 1 1; drop D 1 ! state; rule 6 = 0",
+                "winner = 0; at D 1; winner = 3");
         STORY.says("edits stay behind a drop that is refused", "member 0 -1 1; member 0 1 1; put 0 1; put 0 2; undo",
                 "drop 0 1 ! state; drop 0 3 ! none; count 6 = 1; count 7 = 1; redo = 0");
     }

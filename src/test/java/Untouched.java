@@ -3,13 +3,55 @@ import java.util.List;
 
 /**
  * Whether a call changes nothing: the same run is made on new sheets with it and without it, and these
- * are asked for all that they can tell, each a part of it, so that none has more than 512 calls.
+ * are asked for all that they can tell, each a part of it, so that none has more than 512 calls. Then
+ * once more behind a few calls that leave edits to undo and to redo, a text in the pad and patterns.
  */
 final class Untouched {
     private static final int LEFT = 12;
 
     /** What has changed, or null. */
     static String change(List<String> made, String call) {
+        String change = changeBehind(made, call);
+        List<String> more = new ArrayList<>(made);
+        more.addAll(leftovers(made));
+        boolean same = change == null && answer(made, call).equals(answer(more, call));
+        return same ? changeBehind(more, call) : change;
+    }
+
+    private static String answer(List<String> made, String call) {
+        Teller teller = new Teller();
+        made.forEach(teller::tell);
+        return teller.tell(call);
+    }
+
+    /** None if there is no leaf cell. */
+    private static List<String> leftovers(List<String> made) {
+        Teller teller = new Teller();
+        made.forEach(teller::tell);
+        String cursor = teller.tell("go 0 0 0");
+        StringBuilder cell = new StringBuilder();
+        List<String> rows = new ArrayList<>(List.of("type 7"));
+        for (int d = 0; d < 3; d++) {
+            int leaf = firstLeaf(teller, d);
+            if (leaf < 0) {
+                return List.of();
+            }
+            cell.append(' ').append(leaf);
+            rows.add("pattern " + d + " 1 " + leaf);
+        }
+        rows.addAll(List.of("go" + cell, "put 0 5", "put 0 6", "undo", "go " + cursor));
+        return rows;
+    }
+
+    private static int firstLeaf(Teller teller, int d) {
+        int leaf = 5;
+        while (leaf >= 0 && !teller.tell("about " + d + " " + leaf + " 3").equals("0")) {
+            leaf--;
+        }
+        return leaf;
+    }
+
+    private static String changeBehind(List<String> made, String call) {
         String change = compared(made, call, counts());
         change = change != null ? change : compared(made, call, members());
         change = change != null ? change : compared(made, call, draft());
