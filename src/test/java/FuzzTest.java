@@ -7,6 +7,9 @@ public final class FuzzTest {
     private static final int CALLS = 500;
     private static final String SIGNS = "0123456789+-*/?:()xyz<>^$";
 
+    private static final int[] FAR = {Integer.MIN_VALUE, Integer.MIN_VALUE + 1, -1000000, -36, 36, 216, 65536,
+        Integer.MAX_VALUE - 1, Integer.MAX_VALUE};
+
     private interface Answer {
         Object get();
     }
@@ -45,8 +48,11 @@ public final class FuzzTest {
         return (int) ((seed >>> 33) % bound);
     }
 
-    /** Mostly one of 0 .. bound - 1, now and then one beside these. */
+    /** Mostly one of 0 .. bound - 1, now and then one beside these, or far from them. */
     private int near(int bound) {
+        if (any(200) == 0) {
+            return FAR[any(FAR.length)];
+        }
         return any(25) == 0 ? any(bound + 4) - 2 : any(bound);
     }
 
@@ -216,14 +222,19 @@ public final class FuzzTest {
             case 3:
                 return any(3) > 0 ? any(100) : -2000000000 + any(3);
             case 4:
-                return any(10) == 0 ? (any(2) == 0 ? 2000000001 : -2000000001) : any(1000000000);
+                return any(10) == 0 ? outside() : any(1000000000);
             default:
                 return any(5000);
         }
     }
 
+    private int outside() {
+        int v = any(2) == 0 ? 2000000001 : -2000000001;
+        return any(4) == 0 ? FAR[any(2) == 0 ? 0 : FAR.length - 1] : v;
+    }
+
     private int layer() {
-        return any(25) == 0 ? any(5) - 1 : any(oracle.count(4));
+        return any(25) == 0 ? any(50) == 0 ? FAR[any(FAR.length)] : any(5) - 1 : any(oracle.count(4));
     }
 
     private void toALeaf() {
@@ -268,7 +279,7 @@ public final class FuzzTest {
 
     private void look() {
         int layer = layer();
-        int k = any(12) - 1;
+        int k = any(200) == 0 ? FAR[any(FAR.length)] : any(12) - 1;
         switch (any(5)) {
             case 0:
                 same("value(" + layer + ")", () -> sheet.value(layer), () -> oracle.value(layer));
@@ -292,7 +303,7 @@ public final class FuzzTest {
         int member = some(d);
         int about = near(4);
         int layer = layer();
-        int n = any(5) == 0 ? any(2100) : any(40);
+        int n = any(5) == 0 ? any(2100) : any(5) > 0 ? any(40) : near(2001);
         switch (any(5)) {
             case 0:
                 same("about(" + d + ", " + member + ", " + about + ")", () -> sheet.about(d, member, about),
